@@ -1,3 +1,6 @@
+import java.util.List;
+import java.util.function.Consumer;
+
 /** Promises 10 to 14: bread eaten, cakes, Marches, harvests, and all of it undone. */
 public final class ActsTest {
     private static final Check CHECK = new Check();
@@ -13,6 +16,7 @@ public final class ActsTest {
         ninetyNineOwed();
         undo();
         undoOfEachAct();
+        whatIsNoAct();
         CHECK.end();
     }
 
@@ -103,6 +107,11 @@ public final class ActsTest {
         CHECK.due("it owes nothing", x.about(5), 0);
         CHECK.due("as much seed as it owed", x.field(1, 4), 2);
         CHECK.due("a march of nobody leaves the seed", x.march(), 2);
+        OwedFurrows y = Check.of("FG091G991G191G891E001");
+        y.cake(0, 0, 1);
+        y.cake(0, 2, 3);
+        CHECK.due("all four fields: way", y.eater(0, 5), 9);
+        CHECK.due("all four fields", y.march(), 15);
     }
 
     private static void harvest() {
@@ -179,26 +188,35 @@ public final class ActsTest {
     }
 
     private static void undoOfEachAct() {
-        OwedFurrows x = Check.of("FG192G292E090E002E203");
-        Runnable[] acts = {() -> x.eat(0, 0), () -> x.cake(1, 0, 1), () -> x.eat(2, 1),
-            x::march, x::harvest, () -> x.cake(2, 1, 0)};
-        for (Runnable act : acts) {
+        List<Consumer<OwedFurrows>> acts = List.of(x -> x.eat(0, 0), x -> x.cake(1, 0, 1),
+                x -> x.eat(2, 1), x -> x.march(), x -> x.harvest(), x -> x.cake(2, 1, 0));
+        for (int last = 0; last < acts.size(); last++) {
+            OwedFurrows x = Check.of("FG192G292E090E002E203");
+            for (int act = 0; act < last; act++) {
+                acts.get(act).accept(x);
+            }
             Object before = Check.allOf(x);
-            act.run();
-            x.undo();
+            acts.get(last).accept(x);
+            CHECK.due("acts", x.about(8), last + 1);
+            CHECK.due("undo()", x.undo(), last);
             CHECK.due("all is as it was", Check.allOf(x), before);
-            act.run();
         }
-        CHECK.due("refused acts are none", x.about(8), 6);
+    }
+
+    private static void whatIsNoAct() {
+        OwedFurrows x = Check.of("FG192G292E090E002E203");
+        x.eat(2, 0);
         x.eat(2, 0);
         x.cake(0, 0, 0);
         x.eat(0, 7);
-        CHECK.due("refused acts are none", x.about(8), 6);
+        CHECK.due("refused acts are none", x.about(8), 1);
         x.came(1, 1);
         x.seed(4);
         x.write('Z');
+        CHECK.due("other calls are none", x.about(8), 1);
         x.undo();
-        CHECK.due("came is no act", x.about(9), 1);
-        CHECK.due("seed is no act", x.seed(0), 4);
+        CHECK.due("came stays", x.about(9), 1);
+        CHECK.due("the seed stays", x.seed(0), 4);
+        CHECK.due("the text stays", x.about(10), 22);
     }
 }

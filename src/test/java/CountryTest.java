@@ -57,6 +57,8 @@ public final class CountryTest {
         CHECK.due("the country stays behind wipe()", x.owes(0, 0), 1);
         Check.writeAll(x, "F");
         CHECK.due("fault() of a text written anew", x.fault(), OwedFurrows.NONE);
+        x.write('G');
+        CHECK.due("fault() knows nothing of wiped bytes", x.fault(), 2);
     }
 
     private static void fault() {
@@ -115,7 +117,6 @@ public final class CountryTest {
     private static void countryMadeAnew() {
         OwedFurrows x = Check.of("FG111G222E090E191");
         x.eat(0, 0);
-        x.cake(1, 1, 1);
         x.march();
         x.harvest();
         x.eat(1, 1);
@@ -142,6 +143,12 @@ public final class CountryTest {
         CHECK.due("anew: undo()", x.undo(), OwedFurrows.LATE);
         CHECK.due("anew: the seed stays", x.seed(0), 77);
         CHECK.due("anew: field 1 is gone", x.field(1, 0), OwedFurrows.UNKNOWN);
+        x.eat(0, 0);
+        x.harvest();
+        x.country();
+        CHECK.due("the same anew: owed", x.owes(0, 0), 0);
+        CHECK.due("the same anew: loaves", x.field(0, 3), 5);
+        CHECK.due("the same anew: year", x.about(2), 0);
     }
 
     private static void about() {

@@ -1,0 +1,108 @@
+import java.util.function.ToLongFunction;
+
+/** Every refusal of every call, each on a new object: what is refused changes nothing. */
+public final class RefusalsTest {
+    private static final Check CHECK = new Check();
+    private static final int[] NO_FIELD = {-1, 2, 4, Integer.MIN_VALUE, Integer.MAX_VALUE};
+    private static final int[] NO_EATER = {-1, 3, 5, Integer.MIN_VALUE, Integer.MAX_VALUE};
+    private static final int[] NO_NUMBER = {-1, 48, 1000, Integer.MIN_VALUE, Integer.MAX_VALUE};
+
+    public static void main(String[] args) {
+        unknown();
+        bad();
+        late();
+        full();
+        CHECK.end();
+    }
+
+    /** With six tidings, a full text that is no country, acts, seed in fields, nothing kept. */
+    private static OwedFurrows lived() {
+        OwedFurrows x = Check.of("FG232G551E290E593E081");
+        x.eat(0, 0);
+        x.eat(1, 1);
+        x.march();
+        x.eat(2, 0);
+        x.cake(0, 0, 1);
+        x.eat(1, 1);
+        x.seed(31);
+        for (int i = 0; i < 6; i++) {
+            x.came(4, 1);
+        }
+        x.wipe();
+        for (int i = 0; i < 48; i++) {
+            x.write('F');
+        }
+        return x;
+    }
+
+    private static void refused(String name, ToLongFunction<OwedFurrows> call, int want) {
+        OwedFurrows x = lived();
+        Object before = Check.allOf(x);
+        CHECK.due(name, call.applyAsLong(x), want);
+        CHECK.due("all behind " + name, Check.allOf(x), before);
+    }
+
+    private static void unknown() {
+        int unknown = OwedFurrows.UNKNOWN;
+        for (int f : NO_FIELD) {
+            refused("field(" + f + ", 0)", x -> x.field(f, 0), unknown);
+            refused("owes(0, " + f + ")", x -> x.owes(0, f), unknown);
+            refused("eat(0, " + f + ")", x -> x.eat(0, f), unknown);
+            refused("cake(0, " + f + ", 0)", x -> x.cake(0, f, 0), unknown);
+            refused("cake(0, 0, " + f + ")", x -> x.cake(0, 0, f), unknown);
+            refused("ahead(" + f + ", 0)", x -> x.ahead(f, 0), unknown);
+            refused("wants(" + f + ")", x -> x.wants(f), unknown);
+            refused("rests(0, 1, " + f + ", 0)", x -> x.rests(0, 1, f, 0), unknown);
+            refused("home(" + f + ", 5, true)", x -> x.home(f, 5, true), unknown);
+            refused("keep(" + f + ")", x -> x.keep(f), unknown);
+            refused("again(" + f + ")", x -> x.again(f), unknown);
+        }
+        for (int e : NO_EATER) {
+            refused("eater(" + e + ", 0)", x -> x.eater(e, 0), unknown);
+            refused("owes(" + e + ", 0)", x -> x.owes(e, 0), unknown);
+            refused("eat(" + e + ", 0)", x -> x.eat(e, 0), unknown);
+            refused("cake(" + e + ", 0, 1)", x -> x.cake(e, 0, 1), unknown);
+            refused("rid(" + e + ")", x -> x.rid(e), unknown);
+            refused("share(" + e + ", true)", x -> x.share(e, true), unknown);
+            refused("rests(" + e + ", 1, 0, 0)", x -> x.rests(e, 1, 0, 0), unknown);
+            refused("rests(1, " + e + ", 0, 0)", x -> x.rests(1, e, 0, 0), unknown);
+        }
+    }
+
+    private static void bad() {
+        int bad = OwedFurrows.BAD;
+        for (int n : NO_NUMBER) {
+            refused("write(" + n + " and 256)", x -> x.write(n | 256), bad);
+            refused("about(" + n + ")", x -> x.about(n), bad);
+            refused("field(0, " + n + ")", x -> x.field(0, n), bad);
+            refused("eater(0, " + n + ")", x -> x.eater(0, n), bad);
+            refused("ahead(0, " + n + ")", x -> x.ahead(0, n), bad);
+            refused("judge(" + n + ", 0)", x -> x.judge(n, 0), bad);
+            refused("came(" + n + ", 0)", x -> x.came(n, 0), bad);
+            refused("came(0, " + n + ")", x -> x.came(0, n), bad);
+            refused("strangers(" + n + ")", x -> x.strangers(n), bad);
+            refused("rests(0, 1, 0, " + n + ")", x -> x.rests(0, 1, 0, n), bad);
+            refused("home(0, " + n + ", false)", x -> x.home(0, n, false), bad);
+            refused("years(" + n + ")", x -> x.years(n), bad);
+        }
+        refused("cake(0, 1, 1)", x -> x.cake(0, 1, 1), bad);
+        refused("rests(1, 1, 0, 0)", x -> x.rests(1, 1, 0, 0), bad);
+        refused("judge(4, -1)", x -> x.judge(4, -1), bad);
+    }
+
+    private static void late() {
+        int late = OwedFurrows.LATE;
+        refused("country()", x -> x.country(), late);
+        refused("eat(0, 0)", x -> x.eat(0, 0), late);
+        refused("eat(1, 1)", x -> x.eat(1, 1), late);
+        refused("cake(2, 0, 1)", x -> x.cake(2, 0, 1), late);
+        refused("cake(2, 1, 0)", x -> x.cake(2, 1, 0), late);
+        refused("again(0)", x -> x.again(0), late);
+        refused("again(1)", x -> x.again(1), late);
+    }
+
+    private static void full() {
+        refused("write(70)", x -> x.write(70), OwedFurrows.FULL);
+        refused("came(4, 0)", x -> x.came(4, 0), OwedFurrows.FULL);
+    }
+}
