@@ -1,5 +1,3 @@
-import java.util.function.ToLongFunction;
-
 /** Every refusal of every call, each on a new object: what is refused changes nothing. */
 public final class RefusalsTest {
     private static final Check CHECK = new Check();
@@ -11,16 +9,19 @@ public final class RefusalsTest {
         unknown();
         bad();
         late();
+        lateWithoutActsOrSlots();
         full();
         CHECK.end();
     }
 
-    /** With six tidings, a full text that is no country, acts, seed in fields, nothing kept. */
+    /** With six tidings, a full text that is no country, acts, seed in fields, both slots kept. */
     private static OwedFurrows lived() {
         OwedFurrows x = Check.of("FG232G551E290E593E081");
         x.eat(0, 0);
+        x.keep(0);
         x.eat(1, 1);
         x.march();
+        x.keep(1);
         x.eat(2, 0);
         x.cake(0, 0, 1);
         x.eat(1, 1);
@@ -35,11 +36,13 @@ public final class RefusalsTest {
         return x;
     }
 
-    private static void refused(String name, ToLongFunction<OwedFurrows> call, int want) {
+    /** What can be read is held against what it was, and all that is inside against a twin. */
+    private static void refused(String name, Check.Call call, int want) {
         OwedFurrows x = lived();
         Object before = Check.allOf(x);
-        CHECK.due(name, call.applyAsLong(x), want);
+        CHECK.due(name, call.on(x), want);
         CHECK.due("all behind " + name, Check.allOf(x), before);
+        CHECK.changesNothing(name, RefusalsTest::lived, call, want);
     }
 
     private static void unknown() {
@@ -97,8 +100,27 @@ public final class RefusalsTest {
         refused("eat(1, 1)", x -> x.eat(1, 1), late);
         refused("cake(2, 0, 1)", x -> x.cake(2, 0, 1), late);
         refused("cake(2, 1, 0)", x -> x.cake(2, 1, 0), late);
-        refused("again(0)", x -> x.again(0), late);
-        refused("again(1)", x -> x.again(1), late);
+    }
+
+    private static OwedFurrows young() {
+        OwedFurrows x = Check.of("FG232G551E290E593E081");
+        x.came(3, 1);
+        x.seed(12);
+        return x;
+    }
+
+    private static OwedFurrows youngWithOneKept() {
+        OwedFurrows x = young();
+        x.eat(0, 0);
+        x.keep(0);
+        return x;
+    }
+
+    private static void lateWithoutActsOrSlots() {
+        int late = OwedFurrows.LATE;
+        CHECK.changesNothing("undo()", RefusalsTest::young, x -> x.undo(), late);
+        CHECK.changesNothing("again(0)", RefusalsTest::young, x -> x.again(0), late);
+        CHECK.changesNothing("again(1)", RefusalsTest::youngWithOneKept, x -> x.again(1), late);
     }
 
     private static void full() {
