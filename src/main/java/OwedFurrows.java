@@ -505,7 +505,8 @@ public final class OwedFurrows {
     }
 
     private static int partOfFraction(long above, long below, boolean upper) {
-        long larger = above;
+        // A sign stays above alone, so it is no part of what both are divided by.
+        long larger = Math.abs(above);
         long smaller = below;
         for (int step = 0; step < 100 && smaller != 0; step++) {
             long left = larger % smaller;

@@ -9,6 +9,7 @@ import java.util.Arrays;
 import java.util.List;
 import java.util.Set;
 import java.util.TreeSet;
+import java.util.regex.Matcher;
 import java.util.regex.Pattern;
 
 /** The public face, and those rules of LANGUAGE.md that can be seen from words and members. */
@@ -29,12 +30,17 @@ public final class FaceTest {
             "->", "::", "\\bimport\\b", "\\bpackage\\b", "\\bstatic\\s*\\{", "Exact\\b",
             "\\bprotected\\b", "\\bRandom\\b", "\\bThread\\b", "currentTime", "nanoTime");
 
-    public static void main(String[] args) throws IOException {
+    private static final Set<String> LIBRARY = Set.of("Integer.bitCount", "Math.min", "Math.abs",
+            "System.arraycopy");
+    private static final int LONGEST_METHOD = 60;
+
+    public static void main(String[] args) throws IOException, ReflectiveOperationException {
         methods();
         members();
         constants();
         classesInside();
         source();
+        signsOfFractions();
         CHECK.end();
     }
 
@@ -123,5 +129,44 @@ public final class FaceTest {
         }
         boolean plain = source.chars().allMatch(sign -> sign == '\n' || sign >= 32 && sign < 127);
         CHECK.due("the source has plain signs alone", plain, true);
+        library(code);
+        lengths(code);
+    }
+
+    /** Rule 4: a name with a capital ahead of a point is one of the library's, or of our own. */
+    private static void library(String code) {
+        Matcher call = Pattern.compile("\\b[A-Z][a-z]\\w*\\.\\w+").matcher(code);
+        while (call.find()) {
+            CHECK.due(call.group() + " is a word of the library", LIBRARY.contains(call.group()),
+                    true);
+        }
+    }
+
+    /** Rule 11: by the blanks ahead of it, the line at which a method ends. */
+    private static void lengths(String code) {
+        Matcher method = Pattern.compile("(?ms)^( {4}| {8})(?! )[^\n;=]*\\) \\{\n.*?^\\1\\}$")
+                .matcher(code);
+        int found = 0;
+        while (method.find()) {
+            found++;
+            long lines = method.group().lines().count();
+            CHECK.due(method.group().lines().findFirst().orElse("").strip() + " is short enough",
+                    lines <= LONGEST_METHOD, true);
+        }
+        CHECK.due("methods are found in the source", found > FACE.size(), true);
+    }
+
+    /** No call can bring a fraction below 0, so this asks what all of them would tell it by. */
+    private static void signsOfFractions() throws ReflectiveOperationException {
+        Method part = OwedFurrows.class.getDeclaredMethod("partOfFraction", long.class, long.class,
+                boolean.class);
+        part.setAccessible(true);
+        long[][] fractions = {{-2, 4, -1, 2}, {-1, 2, -1, 2}, {-6, 3, -2, 1}, {-6, 4, -3, 2},
+            {0, 120, 0, 1}, {2, 4, 1, 2}, {6, 3, 2, 1}};
+        for (long[] row : fractions) {
+            String name = row[0] + "/" + row[1];
+            CHECK.due("above in " + name, (int) part.invoke(null, row[0], row[1], true), row[2]);
+            CHECK.due("below in " + name, (int) part.invoke(null, row[0], row[1], false), row[3]);
+        }
     }
 }
